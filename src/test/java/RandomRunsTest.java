@@ -1,0 +1,268 @@
+import java.util.Random;
+
+/** Seeded random runs of calls on the program and on DeskModel side by side; every answer is compared. */
+public final class RandomRunsTest {
+    private static final int RUNS = 400;
+    private static final int CALLS_OF_A_RUN = 300;
+
+    private final Check check;
+    private final Random dice;
+    private final int run;
+    private final PatrolDesk desk = new PatrolDesk();
+    private final DeskModel model = new DeskModel();
+    private final StringBuilder log = new StringBuilder();
+    private final int longestRoad;
+    private final int greatestTrouble;
+    private final int wrongInHundred;
+
+    private RandomRunsTest(Check check, int run) {
+        this.check = check;
+        this.run = run;
+        dice = new Random(run);
+        longestRoad = new int[] {2, 5, 15, 60}[dice.nextInt(4)];
+        greatestTrouble = new int[] {4, 9, 12}[dice.nextInt(3)];
+        wrongInHundred = new int[] {0, 3, 15}[dice.nextInt(3)];
+    }
+
+    public static void main(String[] args) {
+        Check check = new Check("RandomRunsTest");
+        for (int run = 0; run < RUNS && !check.isWrong(); run++) {
+            new RandomRunsTest(check, run).play();
+        }
+        check.end();
+    }
+
+    private void play() {
+        setUp();
+        for (int i = 0; i < CALLS_OF_A_RUN && !check.isWrong(); i++) {
+            step();
+            if (dice.nextInt(6) == 0) {
+                compareAll();
+            }
+        }
+        compareAll();
+        if (check.isWrong()) {
+            System.out.println(log);
+        }
+    }
+
+    private void same(String call, int got, int due) {
+        log.append(call).append(" = ").append(due).append('\n');
+        check.due("run " + run + ": " + call, got, due);
+    }
+
+    /** Mostly from least to most, now and then beside it. */
+    private int from(int least, int most) {
+        if (dice.nextInt(100) < wrongInHundred) {
+            int[] beside = {least - 1, most + 1, Integer.MIN_VALUE, Integer.MAX_VALUE, -1, 0};
+            return beside[dice.nextInt(beside.length)];
+        }
+        return most < least ? 0 : least + dice.nextInt(most - least + 1);
+    }
+
+    private void setUp() {
+        int roads = 4 + dice.nextInt(30);
+        for (int i = 0; i < roads; i++) {
+            addRoad();
+        }
+        int members = 1 + dice.nextInt(22);
+        for (int i = 0; i < members; i++) {
+            addMember();
+        }
+        int patrols = dice.nextInt(8);
+        for (int i = 0; i < patrols; i++) {
+            addPatrol();
+        }
+        int garages = dice.nextInt(7);
+        for (int i = 0; i < garages; i++) {
+            addGarage();
+        }
+    }
+
+    private void addRoad() {
+        int a = from(0, 11);
+        int b = from(0, 11);
+        int m = from(1, longestRoad);
+        same("addRoad(" + a + ", " + b + ", " + m + ")", desk.addRoad(a, b, m), model.addRoad(a, b, m));
+    }
+
+    private void addMember() {
+        int t = from(0, 2);
+        same("addMember(" + t + ")", desk.addMember(t), model.addMember(t));
+    }
+
+    private void addPatrol() {
+        int a = from(0, 11);
+        int s = from(1, 9);
+        boolean t = dice.nextBoolean();
+        same("addPatrol(" + a + ", " + s + ", " + t + ")", desk.addPatrol(a, s, t), model.addPatrol(a, s, t));
+    }
+
+    private void addGarage() {
+        int a = from(0, 11);
+        int p = dice.nextBoolean() ? from(1, 2) : from(1, 9);
+        same("addGarage(" + a + ", " + p + ")", desk.addGarage(a, p), model.addGarage(a, p));
+    }
+
+    private void step() {
+        int kind = dice.nextInt(100);
+        if (kind < 28) {
+            call();
+        } else if (kind < 53) {
+            pass();
+        } else if (kind < 57) {
+            cancel();
+        } else if (kind < 62) {
+            int p = from(0, model.count(4) - 1);
+            boolean on = dice.nextInt(3) > 0;
+            same("duty(" + p + ", " + on + ")", desk.duty(p, on), model.duty(p, on));
+        } else if (kind < 65) {
+            int p = from(0, model.count(4) - 1);
+            same("goHome(" + p + ")", desk.goHome(p), model.goHome(p));
+        } else if (kind < 70) {
+            int g = from(0, model.count(5) - 1);
+            int c = from(1, 2);
+            same("fetch(" + g + ", " + c + ")", desk.fetch(g, c), model.fetch(g, c));
+        } else if (kind < 80) {
+            history();
+        } else if (kind < 88) {
+            text();
+        } else if (kind < 94) {
+            forecast();
+        } else {
+            change();
+        }
+    }
+
+    private void call() {
+        int m = from(0, model.count(3) - 1);
+        int a = from(0, 11);
+        int t = from(1, greatestTrouble);
+        same("call(" + m + ", " + a + ", " + t + ")", desk.call(m, a, t), model.call(m, a, t));
+    }
+
+    private void pass() {
+        int m = dice.nextInt(3) == 0 ? from(1, 120) : from(1, 12);
+        same("pass(" + m + ")", desk.pass(m), model.pass(m));
+    }
+
+    private void cancel() {
+        int c = from(0, model.count(6) - 1);
+        same("cancel(" + c + ")", desk.cancel(c), model.cancel(c));
+    }
+
+    private void forecast() {
+        for (int c = -1; c <= model.count(6); c++) {
+            same("waitFor(" + c + ")", desk.waitFor(c), model.waitFor(c));
+        }
+    }
+
+    private void history() {
+        int kind = dice.nextInt(6);
+        if (kind < 3) {
+            int most = kind == 0 ? 5 : 1;
+            for (int i = 0; i < most; i++) {
+                same("undo()", desk.undo(), model.undo());
+            }
+        } else if (kind < 5) {
+            same("keep()", desk.keep(), model.keep());
+        } else if (dice.nextInt(3) == 0) {
+            same("restore()", desk.restore(), model.restore());
+        }
+    }
+
+    private void change() {
+        int kind = dice.nextInt(10);
+        if (kind < 3) {
+            int d = from(0, 5);
+            same("setWeather(" + d + ")", desk.setWeather(d), model.setWeather(d));
+        } else if (kind < 6) {
+            int t = from(0, 2);
+            int m = dice.nextInt(3) == 0 ? from(10, 11) : from(10, 240);
+            same("setPromise(" + t + ", " + m + ")", desk.setPromise(t, m), model.setPromise(t, m));
+        } else if (kind < 7) {
+            addRoad();
+        } else if (kind < 8) {
+            addMember();
+        } else if (kind < 9) {
+            addPatrol();
+        } else {
+            addGarage();
+        }
+    }
+
+    private void text() {
+        if (dice.nextInt(4) > 0) {
+            same("clearText()", desk.clearText(), model.clearText());
+        }
+        StringBuilder typed = new StringBuilder();
+        int calls = 1 + dice.nextInt(9);
+        for (int i = 0; i < calls; i++) {
+            typed.append(i == 0 ? "" : ";").append('m').append(from(0, model.count(3) - 1))
+                    .append('@').append(from(0, 11)).append('!').append(from(1, 12));
+        }
+        int spoil = dice.nextInt(8);
+        int at = dice.nextInt(typed.length());
+        if (spoil == 0) {
+            typed.setLength(at);
+        } else if (spoil == 1) {
+            typed.insert(at, "m@!;0123456789x-\n".charAt(dice.nextInt(17)));
+        } else if (spoil == 2) {
+            typed.setCharAt(at, (char) dice.nextInt(65536));
+        } else if (spoil == 3) {
+            typed.deleteCharAt(at);
+        }
+        for (int i = 0; i < typed.length(); i++) {
+            char c = typed.charAt(i);
+            same("type((char) " + (int) c + ")", desk.type(c), model.type(c));
+        }
+        same("readCalls()", desk.readCalls(), model.readCalls());
+    }
+
+    private void compareAll() {
+        for (int what = -1; what <= 25; what++) {
+            check.due("run " + run + ": count(" + what + ")", desk.count(what), model.count(what));
+        }
+        for (int n = -1; n <= model.count(3); n++) {
+            for (int what = -1; what <= 7; what++) {
+                check.due("run " + run + ": member(" + n + ", " + what + ")",
+                        desk.member(n, what), model.member(n, what));
+            }
+        }
+        for (int n = -1; n <= model.count(4); n++) {
+            for (int what = -1; what <= 12; what++) {
+                check.due("run " + run + ": patrol(" + n + ", " + what + ")",
+                        desk.patrol(n, what), model.patrol(n, what));
+            }
+        }
+        for (int n = -1; n <= model.count(5); n++) {
+            for (int what = -1; what <= 5; what++) {
+                check.due("run " + run + ": garage(" + n + ", " + what + ")",
+                        desk.garage(n, what), model.garage(n, what));
+            }
+        }
+        for (int n = -1; n <= model.count(6); n++) {
+            for (int what = -1; what <= 13; what++) {
+                check.due("run " + run + ": callOf(" + n + ", " + what + ")",
+                        desk.callOf(n, what), model.callOf(n, what));
+            }
+            check.due("run " + run + ": nearest(" + n + ")", desk.nearest(n), model.nearest(n));
+        }
+        for (int place = -1; place <= 20; place++) {
+            check.due("run " + run + ": waiting(" + place + ")", desk.waiting(place), model.waiting(place));
+        }
+        compareWays();
+    }
+
+    private void compareWays() {
+        int from = from(0, 11);
+        for (int to = -1; to <= 12; to++) {
+            check.due("run " + run + ": distance(" + from + ", " + to + ")",
+                    desk.distance(from, to), model.distance(from, to));
+            for (int place = -1; place <= 12; place++) {
+                check.due("run " + run + ": wayAt(" + from + ", " + to + ", " + place + ")",
+                        desk.wayAt(from, to, place), model.wayAt(from, to, place));
+            }
+        }
+    }
+}
