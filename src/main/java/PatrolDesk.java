@@ -617,7 +617,10 @@ public final class PatrolDesk {
 
         /** The distance; NO_WAY if there is no way. */
         int between(int area, int other) {
-            return isArea(area) && isArea(other) ? distances[area * AREAS + other] : NO_WAY;
+            if (area < 0 || area >= AREAS || other < 0 || other >= AREAS) {
+                return NO_WAY;
+            }
+            return distances[area * AREAS + other];
         }
 
         int build(int area, int other, int minutes) {
@@ -640,7 +643,7 @@ public final class PatrolDesk {
 
         /** The area behind the first one of a shortest way; NONE if the way ends there, or is none. */
         int nextOnWay(int from, int to) {
-            if (!isArea(from) || !isArea(to)) {
+            if (from < 0 || from >= AREAS || to < 0 || to >= AREAS) {
                 return NONE;
             }
             int left = distances[from * AREAS + to];

@@ -8,6 +8,8 @@ public final class HistoryTest {
         undoBringsBackEverything();
         keepAndRestore();
         restoreIsAnAct();
+        everyActIsUndone();
+        placesUsedAnew();
         CHECK.end();
     }
 
@@ -108,6 +110,87 @@ public final class HistoryTest {
         due("17: the minute before", x.count(0), 8);
         due("17: undo the pass", x.undo(), 0);
         due("19: the snapshot outlasts undo", x.restore(), 0);
+    }
+
+    private static void everyActIsUndone() {
+        for (int act = 0; act < 14; act++) {
+            PatrolDesk x = busyDesk();
+            x.keep();
+            if (act >= 9) {
+                x.pass(110);
+            }
+            for (char c : "m5@1!2".toCharArray()) {
+                x.type(c);
+            }
+            long[] before = whole(x);
+            int answer = doAct(x, act);
+            if (answer < 0) {
+                due("17: act " + act + " is done", answer, 0);
+            }
+            x.undo();
+            same("17: act " + act + " undone", whole(x), before);
+        }
+    }
+
+    private static int doAct(PatrolDesk x, int act) {
+        return switch (act) {
+            case 0 -> x.addRoad(7, 8, 9);
+            case 1 -> x.addMember(2);
+            case 2 -> x.addPatrol(9, 9, true);
+            case 3 -> x.addGarage(9, 9);
+            case 4 -> x.setPromise(1, 99);
+            case 5 -> x.setWeather(4);
+            case 6 -> x.call(5, 3, 4);
+            case 7 -> x.cancel(4);
+            case 8 -> x.pass(60);
+            case 9 -> x.duty(2, false);
+            case 10 -> x.goHome(1);
+            case 11 -> x.fetch(0, 1);
+            case 12 -> x.readCalls();
+            default -> x.restore();
+        };
+    }
+
+    /** Who is added after a restore, in the place of one that is there no more, brings nothing from that one. */
+    private static void placesUsedAnew() {
+        PatrolDesk x = new PatrolDesk();
+        x.keep();
+        x.addMember(0);
+        x.addPatrol(0, 9, true);
+        x.addGarage(0, 1);
+        x.call(0, 0, 1);
+        x.pass(6);
+        x.call(0, 0, 1);
+        x.pass(6);
+        x.addPatrol(0, 1, true);
+        x.duty(0, false);
+        x.call(0, 0, 12);
+        x.pass(9);
+        x.fetch(0, 1);
+        x.call(0, 0, 12);
+        x.pass(1);
+        due("19: much was done", x.patrol(0, 9) + 10 * x.patrol(0, 7) + 100 * x.patrol(1, 8), 123);
+        x.restore();
+        for (int i = 0; i < 2; i++) {
+            x.addMember(1);
+            x.addPatrol(5, 3, false);
+            x.addGarage(6, 4);
+        }
+        int[] patrol = {5, 3, 0, 0, 5, -5, -5, 0, 0, 0, 0, 0};
+        for (int what = 0; what < patrol.length; what++) {
+            due("19: patrol(0, " + what + ") anew", x.patrol(0, what), patrol[what]);
+            due("19: patrol(1, " + what + ") anew", x.patrol(1, what), patrol[what]);
+        }
+        int[] garage = {6, 4, 0, 0, 0};
+        for (int what = 0; what < garage.length; what++) {
+            due("19: garage(0, " + what + ") anew", x.garage(0, what), garage[what]);
+        }
+        x.call(1, 11, 2);
+        int[] call = {1, 11, 2, 60, 0, 0, -5, 0, -5, -5, 0, 10060, -5};
+        for (int what = 0; what < call.length; what++) {
+            due("19: callOf(0, " + what + ") anew", x.callOf(0, what), call[what]);
+        }
+        due("19: no member's account from before", x.member(0, 4), 1000);
     }
 
     /** Everybody at work: a drive, a repair, a tow, a wait for a tow, a wait, and a cancelled call. */
