@@ -1117,17 +1117,19 @@ public final class PatrolDesk {
             int waiting = Sending.putInOrder(state);
             for (int place = 0; place < waiting && place < MOST_CALLS; place++) {
                 int number = state.order[place];
-                if (state.isCall(number)) {
-                    Breakdown call = state.calls[number];
-                    int sent = Sending.nearestPatrol(state, call);
-                    if (state.isPatrol(sent)) {
-                        Patrol patrol = state.patrols[sent];
-                        patrol.leaveFor(number, state.map.between(patrol.area, call.area));
-                        call.state = call.state == WAITS ? DRIVEN_TO : call.state;
-                        if (patrol.left == 0) {
-                            arrive(state, sent, call);
-                        }
-                    }
+                if (!state.isCall(number)) {
+                    continue;
+                }
+                Breakdown call = state.calls[number];
+                int sent = Sending.nearestPatrol(state, call);
+                if (!state.isPatrol(sent)) {
+                    continue;
+                }
+                Patrol patrol = state.patrols[sent];
+                patrol.leaveFor(number, state.map.between(patrol.area, call.area));
+                call.state = call.state == WAITS ? DRIVEN_TO : call.state;
+                if (patrol.left == 0) {
+                    arrive(state, sent, call);
                 }
             }
         }
