@@ -325,6 +325,17 @@ public final class PromisesActsTest {
         x.undo();
         due("undone", x.callOf(1, 5), 1);
         due("it drives again", x.patrol(0, 6), 4);
+        PatrolDesk away = Desks.withLine(Desks.ofMembers(1), 5);
+        away.addPatrol(0, 9, true);
+        away.call(0, 1, 1);
+        away.pass(11);
+        away.call(0, 3, 1);
+        away.pass(4);
+        due("cancelled, as it drives from 1 to 3", away.cancel(1), 4);
+        due("neither at home nor at the call", away.patrol(0, 4), 1);
+        away.call(0, 1, 1);
+        away.pass(1);
+        due("there at once", away.callOf(2, 5), 2);
         CHECK.sentence("Promise 9", "Returns the minutes that it has waited;");
         PatrolDesk y = Desks.ofMembers(1);
         y.pass(17);

@@ -419,13 +419,15 @@ public final class TermsRestTest {
 
     private static void placesUsedAnew() {
         CHECK.sentence("HISTORY", "A state is everything");
-        PatrolDesk x = new PatrolDesk();
-        x.keep();
-        Desks.makeBusy(x);
-        x.pass(60);
-        x.restore();
-        Desks.makeBusy(x);
-        same("nothing comes from before the restore", Desks.told(x), Desks.told(Desks.busy()));
+        for (int minutes : new int[] {8, 60}) {
+            PatrolDesk x = new PatrolDesk();
+            x.keep();
+            Desks.makeBusy(x);
+            x.pass(minutes);
+            x.restore();
+            Desks.makeBusy(x);
+            same("nothing comes from before the restore", Desks.told(x), Desks.told(Desks.busy()));
+        }
         // Another patrol, garage, member and call in the place of one that is restored.
         PatrolDesk y = new PatrolDesk();
         y.addMember(2);
