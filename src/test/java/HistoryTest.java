@@ -56,8 +56,8 @@ public final class HistoryTest {
     }
 
     private static void undoBringsBackEverything() {
+        int[] before = Desks.told(busyDesk());
         PatrolDesk x = busyDesk();
-        long[] before = whole(x);
         x.pass(40);
         due("17: a cancel to undo", x.cancel(4), 41);
         due("17: a duty to undo", x.duty(0, false), 2);
@@ -66,17 +66,18 @@ public final class HistoryTest {
         due("17: undo duty", x.undo(), 3);
         due("17: undo cancel", x.undo(), 2);
         due("17: undo pass", x.undo(), 1);
-        same("17: all as before", whole(x), before);
+        same("17: all as before", Desks.told(x), before);
         due("17: the text stays", x.count(24), 1);
-        x.keep();
-        x.pass(100);
-        due("17: undo keeps the snapshot", x.undo(), 1);
-        x.pass(7);
-        due("19: the minute of the snapshot", x.restore(), 3);
-        same("19: all as before", whole(x), before);
-        x.pass(9);
-        due("19: the snapshot stays", x.restore(), 3);
-        same("19: all as before", whole(x), before);
+        PatrolDesk y = busyDesk();
+        y.keep();
+        y.pass(100);
+        due("17: undo keeps the snapshot", y.undo(), 3);
+        y.pass(7);
+        due("19: the minute of the snapshot", y.restore(), 3);
+        same("19: all as before", Desks.told(y), before);
+        y.pass(9);
+        due("19: the snapshot stays", y.restore(), 3);
+        same("19: all as before", Desks.told(y), before);
     }
 
     private static void keepAndRestore() {
@@ -122,13 +123,13 @@ public final class HistoryTest {
             for (char c : "m5@1!2".toCharArray()) {
                 x.type(c);
             }
-            long[] before = whole(x);
+            int[] before = Desks.told(x);
             int answer = doAct(x, act);
             if (answer < 0) {
                 due("17: act " + act + " is done", answer, 0);
             }
             x.undo();
-            same("17: act " + act + " undone", whole(x), before);
+            same("17: act " + act + " undone", Desks.told(x), before);
         }
     }
 
@@ -220,29 +221,7 @@ public final class HistoryTest {
         return x;
     }
 
-    /** All that is told of a state. */
-    private static long[] whole(PatrolDesk x) {
-        long[] told = new long[2000];
-        int n = 0;
-        for (int what = 0; what <= 22; what++) {
-            told[n++] = x.count(what);
-        }
-        for (int i = 0; i < 12; i++) {
-            for (int what = 0; what <= 12; what++) {
-                told[n++] = x.member(i, what);
-                told[n++] = x.patrol(i, what);
-                told[n++] = x.garage(i, what);
-                told[n++] = x.callOf(i, what);
-                told[n++] = x.distance(i, what);
-            }
-            told[n++] = x.waiting(i);
-            told[n++] = x.nearest(i);
-            told[n++] = x.waitFor(i);
-        }
-        return told;
-    }
-
-    private static void same(String what, long[] got, long[] want) {
+    private static void same(String what, int[] got, int[] want) {
         for (int i = 0; i < got.length; i++) {
             due(what + " (" + i + ")", got[i], want[i]);
         }

@@ -75,6 +75,7 @@ public final class TermsRestTest {
         due("none between them", Desks.read(x, "m6@0!1m7@0!1"), -106);
         due("another sign between them", Desks.read(x, "m6@0!1,m7@0!1"), -106);
         due("a blank between them", Desks.read(x, "m6@0!1; m7@0!1"), -107);
+        due("a sign 256 above ; between them", Desks.read(x, "m6@0!1" + (char) (';' + 256) + "m7@0!1"), -106);
         PatrolDesk y = Desks.ofMembers(20);
         due("as many as there is room for",
                 Desks.read(y, "m0@0!1;m1@0!1;m2@0!1;m3@0!1;m4@0!1;m5@0!1;m6@0!1;m7@10!11"), 8);
@@ -86,6 +87,14 @@ public final class TermsRestTest {
         CHECK.sentence("TEXTS", "A call is: \"m\", the member (one or two digits), \"@\", the area (one or two digits),"
                 + " \"!\", and the trouble (one or two digits).");
         String right = "m1@2!3";
+        for (int place = 0; place < 6; place++) {
+            for (int more : new int[] {256, 512, 32768, 65280}) {
+                PatrolDesk x = Desks.ofMembers(4);
+                char other = (char) (right.charAt(place) + more);
+                String text = right.substring(0, place) + other + right.substring(place + 1);
+                due("fault of " + text, Desks.read(x, text), -100 - place);
+            }
+        }
         char[] others = {'M', 'n', '@', '!', ';', 'm', 'A', '?', ' ', '#', '-', '+', '/', ':', 0, 255, 0x0661, 65535};
         for (int place = 0; place < 6; place++) {
             for (char other : others) {

@@ -539,6 +539,16 @@ public final class TermsSendingTest {
             x.pass(6);
             due("later, no callback", x.count(16), costs[tier] + less[tier] + costs[tier]);
         }
+        PatrolDesk y = Desks.ofTiers(0);
+        y.addPatrol(0, 9, false);
+        y.call(0, 0, 1);
+        y.pass(6);
+        y.addPatrol(4, 9, false);
+        y.duty(0, false);
+        y.call(0, 4, 1);
+        y.pass(6);
+        due("a callback that another one repairs", y.patrol(1, 7), 1);
+        due("costs less, too", y.member(0, 4), 1035);
     }
 
     private static void moneyBack() {

@@ -102,7 +102,7 @@ public final class TextTest {
             6, 6, 1, 1, 2, 3, 1,
         };
         for (int i = 0; i < texts.length; i++) {
-            due("16: fault of '" + texts[i] + "'", read(x, texts[i]), -100 - faults[i]);
+            due("16: fault of '" + texts[i] + "'", read(deskOf(20), texts[i]), -100 - faults[i]);
         }
         due("16: too early at 60", read(x, "m1@11!12;m2@11!12;m3@11!12;m4@11!12;m6@11!12;m7@11!12;m8@1!;"), -159);
         due("16: too early behind 60",
