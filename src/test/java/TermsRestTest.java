@@ -199,6 +199,7 @@ public final class TermsRestTest {
         whatAStateIs();
         whatAStateIsAtAnyTime();
         placesUsedAnew();
+        whatIsThereNoMore();
         whatIsNoState();
     }
 
@@ -472,6 +473,40 @@ public final class TermsRestTest {
         due("none", w.callOf(1, 10), 0);
         w.restore();
         due("a callback", w.callOf(1, 10), 1);
+    }
+
+    /** Who is there no more does not go on with its work. */
+    private static void whatIsThereNoMore() {
+        CHECK.sentence("HISTORY", "A state is everything");
+        for (int undone = 0; undone <= 1; undone++) {
+            PatrolDesk x = Desks.ofMembers(2);
+            x.call(0, 0, 1);
+            x.keep();
+            x.addPatrol(0, 9, true);
+            x.call(1, 0, 12);
+            x.pass(1);
+            due("a patrol repairs", x.callOf(0, 5), 2);
+            due("gone", undone == 0 ? x.restore() : x.undo() + x.undo() + x.undo(), undone == 0 ? 0 : 3 + 2 + 1);
+            due("no patrol", x.count(4), 0);
+            due("no calls are done", x.pass(100), 0);
+            due("the call waits", x.callOf(0, 5), 0);
+            due("for nobody", x.callOf(0, 6), -5);
+            due("nobody is on duty", x.count(22), 0);
+            due("one call", x.count(6), 1);
+            due("one call waits", x.waiting(1), -5);
+            due("the other member has none", x.member(1, 2), -5);
+            due("nor had one", x.member(1, 1), 0);
+            due("minutes waited by the one", x.count(15), 100);
+            due("no garage", x.garage(0, 0), -1);
+        }
+        PatrolDesk y = Desks.ofMembers(1);
+        y.addPatrol(0, 1, true);
+        y.keep();
+        y.addGarage(0, 9);
+        y.restore();
+        y.call(0, 0, 12);
+        y.pass(3);
+        due("no tow to a garage that is there no more", y.callOf(0, 5), 3);
     }
 
     private static void changeEverything(PatrolDesk x) {
