@@ -2,15 +2,25 @@ import java.util.Random;
 
 /** Seeded random runs of calls on the program and on DeskModel side by side; every answer is compared. */
 public final class RandomRunsTest {
-    private static final int RUNS = 400;
-    private static final int CALLS_OF_A_RUN = 300;
+    private static final int RUNS = 10_000;
+    /** The document says nothing of an object behind these. */
+    private static final int CALLS_OF_A_DESK = 512;
+    /** So many that a text becomes full. */
+    private static final int MOST_TYPED = 62;
+    /** A text takes the most: clearText, what is typed, readCalls, and questions behind that. */
+    private static final int CALLS_OF_A_STEP = MOST_TYPED + 5;
+
+    /** What a run has more of than others; by that it gets to the document's limits. */
+    private enum More { OF_NOTHING, ROADS, CALLS, MINUTES, THINGS_MADE_ANEW }
 
     private final Check check;
     private final Random dice;
+    private final More more;
     private final int run;
     private final PatrolDesk desk = new PatrolDesk();
     private final DeskModel model = new DeskModel();
     private final StringBuilder log = new StringBuilder();
+    private int left = CALLS_OF_A_DESK;
     private final int longestRoad;
     private final int greatestTrouble;
     private final int wrongInHundred;
@@ -19,6 +29,7 @@ public final class RandomRunsTest {
         this.check = check;
         this.run = run;
         dice = new Random(run);
+        more = More.values()[run % More.values().length];
         longestRoad = new int[] {2, 5, 15, 60}[dice.nextInt(4)];
         greatestTrouble = new int[] {4, 9, 12}[dice.nextInt(3)];
         wrongInHundred = new int[] {0, 3, 15}[dice.nextInt(3)];
@@ -34,19 +45,28 @@ public final class RandomRunsTest {
 
     private void play() {
         setUp();
-        for (int i = 0; i < CALLS_OF_A_RUN && !check.isWrong(); i++) {
-            step();
-            if (dice.nextInt(6) == 0) {
-                compareAll();
+        int forQuestions = CALLS_OF_A_STEP + dice.nextInt(200);
+        while (left > forQuestions && !check.isWrong()) {
+            if (dice.nextInt(2) == 0) {
+                stepOfMore();
+            } else {
+                step();
+            }
+            for (int i = dice.nextInt(4); i > 0 && left > 0; i--) {
+                ask();
             }
         }
-        compareAll();
+        while (left > 0 && !check.isWrong()) {
+            ask();
+        }
+        check.due("run " + run + ": calls that are left", left, 0);
         if (check.isWrong()) {
             System.out.println(log);
         }
     }
 
     private void same(String call, int got, int due) {
+        left--;
         log.append(call).append(" = ").append(due).append('\n');
         check.due("run " + run + ": " + call, got, due);
     }
@@ -61,7 +81,7 @@ public final class RandomRunsTest {
     }
 
     private void setUp() {
-        int roads = 4 + dice.nextInt(30);
+        int roads = more == More.ROADS ? 60 : 4 + dice.nextInt(30);
         for (int i = 0; i < roads; i++) {
             addRoad();
         }
@@ -104,12 +124,43 @@ public final class RandomRunsTest {
         same("addGarage(" + a + ", " + p + ")", desk.addGarage(a, p), model.addGarage(a, p));
     }
 
+    private void stepOfMore() {
+        switch (more) {
+            case ROADS -> addRoad();
+            case CALLS -> {
+                call();
+                cancel();
+            }
+            case MINUTES -> pass(from(100, 120));
+            case THINGS_MADE_ANEW -> makeAnew();
+            default -> step();
+        }
+    }
+
+    /** What worked and is there no more leaves its place to others. */
+    private void makeAnew() {
+        int kind = dice.nextInt(8);
+        if (kind < 2) {
+            addPatrol();
+        } else if (kind < 4) {
+            addGarage();
+        } else if (kind < 5) {
+            call();
+        } else if (kind < 6) {
+            same("restore()", desk.restore(), model.restore());
+        } else if (kind < 7) {
+            pass(from(20, 60));
+        } else {
+            undo(4);
+        }
+    }
+
     private void step() {
         int kind = dice.nextInt(100);
         if (kind < 28) {
             call();
         } else if (kind < 53) {
-            pass();
+            pass(dice.nextInt(3) == 0 ? from(1, 120) : from(1, 12));
         } else if (kind < 57) {
             cancel();
         } else if (kind < 62) {
@@ -121,7 +172,7 @@ public final class RandomRunsTest {
             same("goHome(" + p + ")", desk.goHome(p), model.goHome(p));
         } else if (kind < 70) {
             int g = from(0, model.count(5) - 1);
-            int c = from(1, 2);
+            int c = dice.nextInt(4) == 0 ? from(1, 9) : from(1, 2);
             same("fetch(" + g + ", " + c + ")", desk.fetch(g, c), model.fetch(g, c));
         } else if (kind < 80) {
             history();
@@ -141,8 +192,7 @@ public final class RandomRunsTest {
         same("call(" + m + ", " + a + ", " + t + ")", desk.call(m, a, t), model.call(m, a, t));
     }
 
-    private void pass() {
-        int m = dice.nextInt(3) == 0 ? from(1, 120) : from(1, 12);
+    private void pass(int m) {
         same("pass(" + m + ")", desk.pass(m), model.pass(m));
     }
 
@@ -151,23 +201,33 @@ public final class RandomRunsTest {
         same("cancel(" + c + ")", desk.cancel(c), model.cancel(c));
     }
 
+    private void waitFor(int c) {
+        same("waitFor(" + c + ")", desk.waitFor(c), model.waitFor(c));
+    }
+
+    /** Of some of the calls that no patrol got to. */
     private void forecast() {
-        for (int c = -1; c <= model.count(6); c++) {
-            same("waitFor(" + c + ")", desk.waitFor(c), model.waitFor(c));
+        for (int c = 0; c < model.count(6); c++) {
+            if (model.callOf(c, 5) <= 1 && dice.nextInt(3) == 0) {
+                waitFor(c);
+            }
         }
     }
 
     private void history() {
         int kind = dice.nextInt(6);
         if (kind < 3) {
-            int most = kind == 0 ? 5 : 1;
-            for (int i = 0; i < most; i++) {
-                same("undo()", desk.undo(), model.undo());
-            }
+            undo(kind == 0 ? 5 : 1);
         } else if (kind < 5) {
             same("keep()", desk.keep(), model.keep());
         } else if (dice.nextInt(3) == 0) {
             same("restore()", desk.restore(), model.restore());
+        }
+    }
+
+    private void undo(int times) {
+        for (int i = 0; i < times; i++) {
+            same("undo()", desk.undo(), model.undo());
         }
     }
 
@@ -208,61 +268,62 @@ public final class RandomRunsTest {
         } else if (spoil == 1) {
             typed.insert(at, "m@!;0123456789x-\n".charAt(dice.nextInt(17)));
         } else if (spoil == 2) {
-            typed.setCharAt(at, (char) dice.nextInt(65536));
+            typed.setCharAt(at, (char) (dice.nextBoolean() ? dice.nextInt(65536) : 0));
         } else if (spoil == 3) {
             typed.deleteCharAt(at);
         }
-        for (int i = 0; i < typed.length(); i++) {
+        for (int i = 0; i < typed.length() && i < MOST_TYPED; i++) {
             char c = typed.charAt(i);
             same("type((char) " + (int) c + ")", desk.type(c), model.type(c));
         }
         same("readCalls()", desk.readCalls(), model.readCalls());
     }
 
-    private void compareAll() {
-        for (int what = -1; what <= 25; what++) {
-            check.due("run " + run + ": count(" + what + ")", desk.count(what), model.count(what));
+    private void ask() {
+        int kind = dice.nextInt(100);
+        if (kind < 12) {
+            int what = from(0, 24);
+            same("count(" + what + ")", desk.count(what), model.count(what));
+        } else if (kind < 26) {
+            int n = from(0, model.count(3) - 1);
+            int what = from(0, 6);
+            same("member(" + n + ", " + what + ")", desk.member(n, what), model.member(n, what));
+        } else if (kind < 44) {
+            int n = from(0, model.count(4) - 1);
+            int what = from(0, 11);
+            same("patrol(" + n + ", " + what + ")", desk.patrol(n, what), model.patrol(n, what));
+        } else if (kind < 51) {
+            int n = from(0, model.count(5) - 1);
+            int what = from(0, 4);
+            same("garage(" + n + ", " + what + ")", desk.garage(n, what), model.garage(n, what));
+        } else if (kind < 75) {
+            int n = from(0, model.count(6) - 1);
+            int what = from(0, 12);
+            same("callOf(" + n + ", " + what + ")", desk.callOf(n, what), model.callOf(n, what));
+        } else {
+            askOfWaysAndTurns(kind);
         }
-        for (int n = -1; n <= model.count(3); n++) {
-            for (int what = -1; what <= 7; what++) {
-                check.due("run " + run + ": member(" + n + ", " + what + ")",
-                        desk.member(n, what), model.member(n, what));
-            }
-        }
-        for (int n = -1; n <= model.count(4); n++) {
-            for (int what = -1; what <= 12; what++) {
-                check.due("run " + run + ": patrol(" + n + ", " + what + ")",
-                        desk.patrol(n, what), model.patrol(n, what));
-            }
-        }
-        for (int n = -1; n <= model.count(5); n++) {
-            for (int what = -1; what <= 5; what++) {
-                check.due("run " + run + ": garage(" + n + ", " + what + ")",
-                        desk.garage(n, what), model.garage(n, what));
-            }
-        }
-        for (int n = -1; n <= model.count(6); n++) {
-            for (int what = -1; what <= 13; what++) {
-                check.due("run " + run + ": callOf(" + n + ", " + what + ")",
-                        desk.callOf(n, what), model.callOf(n, what));
-            }
-            check.due("run " + run + ": nearest(" + n + ")", desk.nearest(n), model.nearest(n));
-        }
-        for (int place = -1; place <= 20; place++) {
-            check.due("run " + run + ": waiting(" + place + ")", desk.waiting(place), model.waiting(place));
-        }
-        compareWays();
     }
 
-    private void compareWays() {
-        int from = from(0, 11);
-        for (int to = -1; to <= 12; to++) {
-            check.due("run " + run + ": distance(" + from + ", " + to + ")",
-                    desk.distance(from, to), model.distance(from, to));
-            for (int place = -1; place <= 12; place++) {
-                check.due("run " + run + ": wayAt(" + from + ", " + to + ", " + place + ")",
-                        desk.wayAt(from, to, place), model.wayAt(from, to, place));
-            }
+    private void askOfWaysAndTurns(int kind) {
+        if (kind < 80) {
+            int place = from(0, 6);
+            same("waiting(" + place + ")", desk.waiting(place), model.waiting(place));
+        } else if (kind < 86) {
+            int n = from(0, model.count(6) - 1);
+            int first = dice.nextBoolean() ? model.waiting(dice.nextInt(3)) : n;
+            same("nearest(" + first + ")", desk.nearest(first), model.nearest(first));
+        } else if (kind < 90) {
+            waitFor(from(0, model.count(6) - 1));
+        } else if (kind < 94) {
+            int a = from(0, 11);
+            int b = from(0, 11);
+            same("distance(" + a + ", " + b + ")", desk.distance(a, b), model.distance(a, b));
+        } else {
+            int a = from(0, 11);
+            int b = from(0, 11);
+            int place = from(0, dice.nextBoolean() ? 2 : 11);
+            same("wayAt(" + a + ", " + b + ", " + place + ")", desk.wayAt(a, b, place), model.wayAt(a, b, place));
         }
     }
 }
